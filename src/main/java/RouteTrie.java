@@ -18,11 +18,11 @@ public final class RouteTrie {
     private static final int HOP = 2;
 
     private final Node root;
-    private int size;
+    private int nodeCount;
 
     public RouteTrie() {
         root = new Node(0, 0, NONE);
-        size = 1;
+        nodeCount = 1;
     }
 
     public void init() {
@@ -30,7 +30,7 @@ public final class RouteTrie {
         root.routes = 0;
         root.zero = null;
         root.one = null;
-        size = 1;
+        nodeCount = 1;
     }
 
     public int insert(int prefix, int len, int hop) {
@@ -103,7 +103,7 @@ public final class RouteTrie {
     }
 
     public int nodes() {
-        return size;
+        return nodeCount;
     }
 
     public int depth(int address) {
@@ -218,7 +218,7 @@ public final class RouteTrie {
     }
 
     private Node newNode(int bits, int len, int hop) {
-        size++;
+        nodeCount++;
         return new Node(bits, len, hop);
     }
 
@@ -249,7 +249,7 @@ public final class RouteTrie {
             return;
         }
         parent.replace(node, node.zero != null ? node.zero : node.one);
-        size--;
+        nodeCount--;
     }
 
     private static final class Node {

@@ -1,6 +1,7 @@
-/** Runs of up to 512 mixed calls, each answer beside the one of PlainRoutes. */
+/** Runs of 512 mixed calls, each answer beside the one of PlainRoutes. */
 public final class PlainRoutesTest {
     private static final int CALLS = 512;
+    private static final int MOST = 500;
 
     private final String name;
     private final int from;
@@ -50,16 +51,14 @@ public final class PlainRoutesTest {
     }
 
     private void fullRun() {
-        int calls = 0;
-        while (plain.count() < 500 && calls < CALLS - 10) {
-            insert();
-            calls++;
+        for (int i = 0; i < MOST; i++) {
+            insertFresh();
         }
-        for (; calls < CALLS; calls++) {
+        for (int i = MOST; i < CALLS; i++) {
             int kind = below(10);
-            if (kind < 2) {
+            if (kind < 3) {
                 insert();
-            } else if (kind < 3) {
+            } else if (kind < 4) {
                 remove();
             } else {
                 ask(below(8));
@@ -73,6 +72,17 @@ public final class PlainRoutesTest {
         int hop = below(50) == 0 ? -1 - below(3) : below(1000);
         Due.is(name + "insert(" + bits + ", " + len + ", " + hop + ")",
                 trie.insert(bits, len, hop), plain.insert(bits, len, hop));
+    }
+
+    private void insertFresh() {
+        int len;
+        int bits;
+        do {
+            len = from + 8 + below(to - from - 7);
+            bits = prefixOf(len);
+        } while (plain.exact(bits, len) >= 0);
+        Due.is(name + "insert(" + bits + ", " + len + ", 1)", trie.insert(bits, len, 1), 1);
+        plain.insert(bits, len, 1);
     }
 
     private void remove() {
@@ -114,9 +124,12 @@ public final class PlainRoutesTest {
 
     /** Bits of that length, now and then with some beyond it. */
     private int prefix(int len) {
-        int kept = len < 0 || len > 32 || below(60) == 0 ? 32 : len;
+        return prefixOf(len < 0 || len > 32 || below(60) == 0 ? 32 : len);
+    }
+
+    private int prefixOf(int len) {
         int bits = 0;
-        for (int i = from; i < to && i < kept; i++) {
+        for (int i = from; i < to && i < len; i++) {
             bits |= below(2) << (31 - i);
         }
         return bits;

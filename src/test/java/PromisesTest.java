@@ -130,6 +130,10 @@ public final class PromisesTest {
         Due.is("4: insert again", x.insert(0x0A010000, 16, 50), 1);
         Due.is("4: exact again", x.exact(0x0A010000, 16), 50);
         Due.is("4: remove hop 0", x.remove(0xC0A80000, 16), true);
+        x.insert(0xF0000000, 4, 60);
+        x.insert(0xFF000000, 8, 61);
+        Due.is("4: remove one with a longer one below", x.remove(0xF0000000, 4), true);
+        Due.is("4: the longer one stays", x.exact(0xFF000000, 8), 61);
     }
 
     private static void promise4RemoveWhatIsNoRoute() {
