@@ -1,5 +1,8 @@
-/** Prints every answer that is not the one that is due, and ends the program with 1 if there was one. */
+/** Prints the answers that are not the ones that are due, and ends the program with 1 if there was one. */
 final class Due {
+    /** One fault may make millions of answers wrong. */
+    private static final int MOST_PRINTED = 1000;
+
     private static int asked = 0;
     private static int wrong = 0;
 
@@ -10,7 +13,9 @@ final class Due {
         asked++;
         if (got != want) {
             wrong++;
-            System.out.println(call + " answered " + got + ", due is " + want);
+            if (wrong <= MOST_PRINTED) {
+                System.out.println(call + " answered " + got + ", due is " + want);
+            }
         }
     }
 

@@ -1,7 +1,7 @@
 /** A method for each promise: ordinary inputs, the edges that the document names, and wrong inputs. */
 public final class PromisesTest {
     private static final int TOP = Integer.MIN_VALUE;
-    private static final int MOST = 500;
+    private static final int MOST = Samples.MOST;
 
     public static void main(String[] args) {
         promise1ANewObject();
@@ -30,21 +30,21 @@ public final class PromisesTest {
 
     private static void promise1ANewObject() {
         Due.is("NONE", RouteTrie.NONE, -1);
-        dueEmpty("new", new RouteTrie());
+        Samples.dueNoRoutes("new", new RouteTrie());
         RouteTrie other = sample();
-        dueEmpty("new beside another", new RouteTrie());
+        Samples.dueNoRoutes("new beside another", new RouteTrie());
         Due.is("1: the other one's count()", other.count(), 7);
     }
 
     private static void promise2Init() {
         RouteTrie x = new RouteTrie();
         x.init();
-        dueEmpty("init() at once", x);
+        Samples.dueNoRoutes("init() at once", x);
         x = sample();
         x.init();
-        dueEmpty("init()", x);
+        Samples.dueNoRoutes("init()", x);
         x.init();
-        dueEmpty("init() twice", x);
+        Samples.dueNoRoutes("init() twice", x);
         Due.is("2: insert after init()", x.insert(0x0A000000, 8, 77), 1);
         Due.is("2: exact after init()", x.exact(0x0A000000, 8), 77);
         Due.is("2: count after init()", x.count(), 1);
@@ -363,40 +363,11 @@ public final class PromisesTest {
         Due.is("12: depth of the first of them", x.depth(0), 1);
     }
 
-    private static void dueEmpty(String when, RouteTrie x) {
-        Due.is(when + ": count()", x.count(), 0);
-        Due.is(when + ": nodes()", x.nodes(), 1);
-        Due.is(when + ": depth(0)", x.depth(0), 1);
-        Due.is(when + ": lookup(0)", x.lookup(0), -1);
-        Due.is(when + ": lookup(0x0A010101)", x.lookup(0x0A010101), -1);
-        Due.is(when + ": lookupLen(-1)", x.lookupLen(-1), -1);
-        Due.is(when + ": exact(0, 0)", x.exact(0, 0), -1);
-        Due.is(when + ": exact(0x0A000000, 8)", x.exact(0x0A000000, 8), -1);
-        Due.is(when + ": under(0, 0)", x.under(0, 0), 0);
-        Due.is(when + ": under(0x0A000000, 8)", x.under(0x0A000000, 8), 0);
-        Due.is(when + ": route(0, 2)", x.route(0, 2), 0);
-        Due.is(when + ": remove(0, 0)", x.remove(0, 0), false);
-    }
-
-    /** Seven routes, put in out of order. */
     private static RouteTrie sample() {
-        RouteTrie x = new RouteTrie();
-        x.insert(0x0A010000, 16, 11);
-        x.insert(-1, 32, 99);
-        x.insert(0x0A010100, 24, 12);
-        x.insert(0, 0, 1);
-        x.insert(0xC0A80000, 16, 0);
-        x.insert(0x0A000000, 8, 10);
-        x.insert(0x40000000, 4, 40);
-        return x;
+        return Samples.trieOf(Samples.seven());
     }
 
-    /** As many routes as there may be, none of which begins with another. */
     private static RouteTrie full() {
-        RouteTrie x = new RouteTrie();
-        for (int i = 1; i <= MOST; i++) {
-            Due.is("insert " + i + " of 500", x.insert(i << 16, 32, i), 1);
-        }
-        return x;
+        return Samples.trieOf(Samples.fiveHundred());
     }
 }
