@@ -2,7 +2,7 @@ import java.util.ArrayList;
 import java.util.List;
 import java.util.function.ToIntFunction;
 
-/** "(-1 and -2 change nothing.)", and no question changes anything: all that can be asked is asked afterwards. */
+/** "(-1 and -2 change nothing.)", nor does a question: each route and some addresses and prefixes are asked afterwards. */
 public final class UnchangedTest {
     private static final int LEAST = Integer.MIN_VALUE;
     private static final int GREATEST = Integer.MAX_VALUE;
