@@ -27,6 +27,7 @@ public final class LanguageTest {
         LanguageTest test = new LanguageTest(text.replaceAll("(?s)/\\*.*?\\*/", "").replaceAll("//.*", ""));
         test.dueOneFileWithoutPackage();
         test.dueNoForbiddenWords();
+        test.dueLoopsAlongChains();
         test.dueOnlyTheLibraryListed();
         test.dueObjectsOfItsOwnOnly();
         test.dueShortMethods();
@@ -49,7 +50,11 @@ public final class LanguageTest {
         dueNone("exception, as the document names none (rule 6)", "\\b(throw|throws|try|catch|finally)\\b");
         dueNone("forbidden word (rule 6)", "\\b(synchronized|assert|equals|hashCode|toString)\\b");
         dueNone("division (rule 7)", "[/%]");
-        dueNone("loop without an end (rule 9)", "while \\(true\\)|for \\(;;\\)");
+    }
+
+    private void dueLoopsAlongChains() {
+        long loops = timesOf("\\b(while|for|do)\\b");
+        Due.is("rule 9: loops that end with a chain of nodes", timesOf("\\bwhile \\(\\w+ != null\\b"), loops);
     }
 
     private void dueOnlyTheLibraryListed() {
